@@ -1,0 +1,58 @@
+/** Holds each answer against the one that is due, and tells those that differ. */
+final class Due {
+    private static final int MOST_TOLD = 40;
+    private final String name;
+    private int looked;
+    private int wrong;
+
+    Due(String name) {
+        this.name = name;
+    }
+
+    void is(String call, long got, long want) {
+        looked++;
+        if (got == want) {
+            return;
+        }
+        wrong++;
+        if (wrong <= MOST_TOLD) {
+            System.out.println(name + ": " + call + " answered " + got + ", due is " + want);
+        }
+    }
+
+    void isSo(String what, boolean so) {
+        is(what, so ? 1 : 0, 1);
+    }
+
+    int wrong() {
+        return wrong;
+    }
+
+    /** The last line of each test: its exit code says whether it failed. */
+    void ends() {
+        System.out.println(name + ": " + looked + " looked at, " + wrong + " wrong");
+        if (wrong != 0) {
+            System.exit(1);
+        }
+    }
+
+    static void feed(BellsBelow x, String text) {
+        for (int i = 0; i < text.length(); i++) {
+            x.feed(text.charAt(i));
+        }
+    }
+
+    /** Feeds a text whole and makes a HOUSE of it. */
+    static int house(BellsBelow x, String text) {
+        feed(x, text);
+        return x.house();
+    }
+
+    static int bits(int... floors) {
+        int all = 0;
+        for (int f : floors) {
+            all |= 1 << f;
+        }
+        return all;
+    }
+}
