@@ -635,13 +635,7 @@ public final class BellsBelow {
             v[p] = itsV;
             floor[p] = itsFloor;
             goal[p] = NOT;
-            rests[p] = 0;
-            gone[p] = 0;
-            came[p] = 0;
-            // After undo() another one may have been here.
-            for (int part = 0; part < PARTS; part++) {
-                rows[p * PARTS + part] = 0;
-            }
+            // All else is 0 still: copies() brings back the places behind the last one, too.
             many++;
             return p;
         }
@@ -687,12 +681,15 @@ public final class BellsBelow {
 
         void gives() {
             for (int f = 0; f < FLOORS; f++) {
-                if (waitsFor(f)) {
-                    int p = cheapest(f);
-                    if (p != NOT) {
-                        goal[p] = f;
-                    }
+                if (!waitsFor(f)) {
+                    continue;
                 }
+                int p = cheapest(f);
+                if (p == NOT) {
+                    // Nobody is FREE, so nobody is for the FLOORS behind it.
+                    return;
+                }
+                goal[p] = f;
             }
         }
 

@@ -184,6 +184,9 @@ public final class HousesTest {
         DUE.is("of another", x.of(0, 10), 50);
         Due.house(x, "slow 5 p=0");
         DUE.is("by the newest alone", x.of(1, 18), 6);
+        Due.house(x, "slow 40 p=1;rest");
+        Due.house(x, "slow 4 p=1;keen 0 p=1;slow 0 p=1");
+        DUE.is("nothing of a fault, 0 for 0", x.of(1, 18), 10);
     }
 
     private static void rests() {

@@ -7,6 +7,7 @@ public final class ImageTest {
         all();
         whatIsNotInIt();
         fewer();
+        seen();
         DUE.ends();
     }
 
@@ -119,6 +120,19 @@ public final class ImageTest {
         DUE.is("no house held", y.told(1), 2);
         DUE.is("the next house", Due.house(y, "rest 6"), 1);
         DUE.is("it holds", y.told(1), 6);
+    }
+
+    private static void seen() {
+        BellsBelow x = new BellsBelow();
+        x.master(0, 0, 0);
+        x.ring(9);
+        x.see(0, 3, 3);
+        x.image();
+        x.see(-1, 0, 0);
+        x.see(0, 5, 8);
+        DUE.is("seen otherwise", x.from(0), Due.bits(3));
+        x.undo();
+        DUE.is("seen as it was", x.from(0), Due.bits(0));
     }
 
     private static void fewer() {

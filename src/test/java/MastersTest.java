@@ -251,10 +251,13 @@ public final class MastersTest {
         DUE.is("cross 10", x.cross(0, 10), -1);
         DUE.is("cross 10 10", x.cross(10, 10), -1);
         DUE.is("cross 4 4", x.cross(4, 4), -2);
+        BellsBelow y = new BellsBelow();
         for (int f = 0; f < 9; f++) {
-            x.cross(f, f + 1);
+            y.cross(f, f + 1);
         }
-        DUE.is("all but one loop", x.told(20), x.told(25));
+        DUE.is("one loop", y.told(20), 10);
+        DUE.is("one loop, from 9", y.told(29), 10);
+        DUE.is("one loop, crossed", y.told(5), 9);
     }
 
     private static void rows() {

@@ -298,6 +298,12 @@ public final class MinutesTest {
         y.ring(7);
         DUE.is("one ahead of none", y.shared(13), 0);
         DUE.is("none then", y.shared(17), -5);
+        y.ring(0);
+        // 0 costs 10, 3 and 7 cost 4 each: 0 is for none.
+        DUE.is("none to 0", y.shared(10), -5);
+        y.set(0, 0, 1);
+        DUE.is("one to 0", y.shared(10), 0);
+        DUE.is("one to 0, cost", y.shared(1), 2);
         BellsBelow z = new BellsBelow();
         for (int p = 0; p < 6; p++) {
             z.master(0, 0, 9 - p);

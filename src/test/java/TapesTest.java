@@ -35,10 +35,16 @@ public final class TapesTest {
         DUE.is("it stays still", x.read(0, 59), 5);
         DUE.is("anew", x.tape(0, 3, 60), 1);
         DUE.is("all 0", x.read(0, 59), 0);
+        x.item(0, 0, 8);
+        DUE.is("anew, of another sort", x.tape(0, 0, 2), 1);
+        DUE.is("all 0 from the first", x.read(0, 0), 0);
+        DUE.is("no longer so long", x.read(0, 2), NO);
         DUE.is("none long", x.tape(0, 3, 0), 1);
         DUE.is("no place", x.item(0, 0, 1), -13);
         DUE.is("nothing, n below 0", x.tape(0, -1, -1), 1);
         DUE.is("nothing there", x.item(0, 0, 1), -11);
+        DUE.is("nothing to read", x.read(0, 0), NO);
+        DUE.is("nothing to judge", x.judge(0, 0), 100);
         DUE.is("nothing, n above 60", x.tape(5, -1, 99), 1);
         DUE.is("nothing of no tape", x.tape(6, -1, 0), -1);
     }
