@@ -180,7 +180,8 @@ public final class NothingChangesTest {
             n += refuses("item" + by, x.item(a, b, 77));
         }
         if (a != 0 && a != 2) {
-            n += refuses("shift" + by, x.shift(a, 0, 0, 1, 2)) + refuses("shift" + by, x.shift(0, 3, a, 0, 1));
+            n += refuses("shift" + by, x.shift(a, 0, 0, 1, 2));
+            n += refuses("shift" + by, x.shift(0, 3, a, 0, 1));
         }
         if (!in(a, 10) || !in(b, 1)) {
             n += refuses("shift places" + by, x.shift(0, a, 2, b, 2));
