@@ -30,6 +30,10 @@ public final class AgainstPlainTest {
 
     private void same(String call, long got, long want) {
         calls++;
+        // What later calls answer is free.
+        if (calls > CALLS) {
+            return;
+        }
         due.is("run " + run + " call " + calls + ": " + call, got, want);
     }
 

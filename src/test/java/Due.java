@@ -24,6 +24,10 @@ final class Due {
         is(what, so ? 1 : 0, 1);
     }
 
+    int looked() {
+        return looked;
+    }
+
     int wrong() {
         return wrong;
     }

@@ -1,4 +1,4 @@
-/** What is refused changes nothing, and what is asked changes nothing. */
+/** What is refused by any two numbers at once changes nothing. */
 public final class NothingChangesTest {
     private static final Due DUE = new Due("NothingChangesTest");
     private static final int[] EDGES = {
@@ -7,102 +7,17 @@ public final class NothingChangesTest {
     };
 
     public static void main(String[] args) {
-        asked();
-        refused();
-        refusedWhenFull();
-        DUE.ends();
-    }
-
-    /** Some of all there is: one who goes, one who rests, one away, one free, a told one. */
-    private static BellsBelow stage() {
-        BellsBelow x = new BellsBelow();
-        x.master(0, 1, 2);
-        x.master(1, 2, 9);
-        x.master(5, 3, 4);
-        x.master(6, 4, 0);
-        x.row(3, 1, 5);
-        Due.house(x, "slow 3 a>4|m=2;keen 2 k=5&!f<3;rest 4");
-        x.cross(1, 6);
-        x.cross(6, 8);
-        x.ring(0);
-        x.ring(8);
-        x.pass(1);
-        x.ring(5);
-        x.ring(9);
-        x.pass(1);
-        x.away(1, true);
-        x.see(0, 0, 2);
-        x.plan(1, 3);
-        x.plan(2, 0);
-        x.plan(0, 0);
-        x.book(2, 4);
-        x.book(0, 7);
-        x.image();
-        x.set(2, 1, 7);
-        x.ring(2);
-        Due.feed(x, "slow");
-        x.tape(0, 0, 12);
-        x.item(0, 3, 4);
-        x.tape(1, 3, 5);
-        x.item(1, 2, -9);
-        x.tape(2, 0, 3);
-        x.act(3, 2, 5);
-        return x;
-    }
-
-    /** All that can be asked. */
-    private static String told(BellsBelow x) {
-        StringBuilder all = new StringBuilder();
-        for (int p = 0; p < 6; p++) {
-            for (int what = 0; what < 20; what++) {
-                all.append(x.of(p, what)).append(' ');
-            }
-            all.append(x.from(p)).append(' ').append(x.can(p, 0)).append(' ').append(x.can(p, 1))
-                .append(' ').append(x.odds(p, 0)).append('/').append(x.odds(p, 1)).append(' ')
-                .append(x.taken(p, 3)).append(' ');
-        }
-        for (int what = 0; what < 30; what++) {
-            all.append(x.told(what)).append(' ').append(x.on(what, what % 26)).append(' ')
-                .append(x.shared(what)).append(' ').append(x.bell(what % 10, what % 2)).append(' ')
-                .append(x.count(what)).append(' ').append(x.trace(what)).append(' ');
-        }
-        all.append(x.mean(20, 0)).append('/').append(x.mean(20, 1)).append(' ');
-        all.append(x.ends(0)).append(' ').append(x.ends(1)).append(' ').append(x.looked());
-        for (int tape = 0; tape < 6; tape++) {
-            all.append(' ').append(x.judge(tape, 0));
-            for (int i = 0; i < 13; i++) {
-                all.append(' ').append(x.read(tape, i));
-            }
-        }
-        return all.toString();
-    }
-
-    /** What cannot be asked alone: what all is once it goes on, and behind undo(). */
-    private static String toldThen(BellsBelow x) {
-        String all = told(x);
-        all += x.row(3, 1, 5) + " " + x.feed('x') + " " + x.house() + " " + x.pass(7) + told(x);
-        return all + x.undo() + told(x) + x.row(3, 1, 1);
-    }
-
-    private static void asked() {
-        BellsBelow x = stage();
-        String first = told(x);
-        DUE.isSo("asked twice", told(x).equals(first));
-        DUE.isSo("asked twice, then", toldThen(x).equals(toldThen(stage())));
-    }
-
-    private static void refused() {
-        BellsBelow x = stage();
-        String was = told(x);
+        String due = State.of(Stage.some());
         int refusals = 0;
         for (int a : EDGES) {
             for (int b : EDGES) {
+                BellsBelow x = Stage.some();
                 refusals += refusedBy(x, a, b);
-                DUE.isSo("refused by " + a + " " + b, told(x).equals(was));
+                DUE.isSo("refused by " + a + " " + b, State.of(x).equals(due));
             }
         }
         DUE.isSo("many were refused: " + refusals, refusals > 10000);
-        DUE.isSo("refused, then", toldThen(x).equals(toldThen(stage())));
+        DUE.ends();
     }
 
     private static int refuses(String call, long answer) {
@@ -190,47 +105,5 @@ public final class NothingChangesTest {
             n += refuses("shift n" + by, x.shift(0, 3, 2, 0, a));
         }
         return n;
-    }
-
-    private static void refusedWhenFull() {
-        BellsBelow x = stage();
-        x.master(2, 2, 2);
-        x.master(3, 3, 3);
-        fill(x);
-        String was = told(x);
-        DUE.is("master", x.master(0, 0, 0), -4);
-        DUE.is("house", x.house(), -4);
-        DUE.is("feed", x.feed('x'), -4);
-        DUE.is("see", x.see(0, 0, 0), -4);
-        DUE.is("plan", x.plan(0, 0), -4);
-        DUE.is("book", x.book(0, 0), -4);
-        DUE.isSo("full, and nothing changed", told(x).equals(was));
-        DUE.is("pass to 9999", passed(x), 9999);
-        String late = told(x);
-        DUE.is("pass", x.pass(1), -3);
-        DUE.isSo("late, and nothing changed", told(x).equals(late));
-    }
-
-    private static void fill(BellsBelow x) {
-        x.house();
-        for (int i = 0; i < 6; i++) {
-            Due.house(x, "rest " + i);
-        }
-        x.house();
-        while (x.count(5) < 100) {
-            x.feed('r');
-        }
-        for (int i = 0; i < 10; i++) {
-            x.see(1, i, i);
-            x.plan(0, 0);
-            x.book(1, i);
-        }
-    }
-
-    private static int passed(BellsBelow x) {
-        while (x.told(0) <= 9939) {
-            x.pass(60);
-        }
-        return x.pass(9999 - x.told(0));
     }
 }
