@@ -1,12 +1,28 @@
 /** Holds each answer against the one that is due, and tells those that differ. */
 final class Due {
-    private static final int MOST_TOLD = 40;
+    private static final int MOST_TOLD = 40, MOST_SECONDS = 300;
     private final String name;
     private int looked;
     private int wrong;
 
     Due(String name) {
         this.name = name;
+        watches();
+    }
+
+    /** A call that does not end must fail the test, not hold up all others. */
+    private void watches() {
+        Thread watch = new Thread(() -> {
+            try {
+                Thread.sleep(MOST_SECONDS * 1000L);
+            } catch (InterruptedException early) {
+                return;
+            }
+            System.out.println(name + ": not at its end after " + MOST_SECONDS + " seconds");
+            Runtime.getRuntime().halt(1);
+        });
+        watch.setDaemon(true);
+        watch.start();
     }
 
     void is(String call, long got, long want) {

@@ -92,6 +92,50 @@ public final class EdgeHousesTest extends Edge {
         fault(early, "");
     }
 
+    static void p10_FAULT_at_the_end_of_a_TEXT_of_100_behind_each_part() {
+        String[] ends = {
+            "rest 1;", "rest 1;s", "rest 1;slow", "rest 1;slow ", "rest 1;slow 1", "rest 1;slow 1 ",
+            "rest 1;slow 1 p", "rest 1;slow 1 p=", "rest 1;slow 1 !", "rest 1;slow 1 (",
+            "rest 1;slow 1 (p=1", "rest 1;slow 1 p=1|", "rest 1;slow 1 p=1&", "rest 1;k",
+            "rest 1;keen ", "rest 1;r", "rest 1;rest", "rest 1;rest "
+        };
+        for (String end : ends) {
+            String text = hundredEnding(end);
+            is("signs of it", text.length(), 100);
+            fault(text, "");
+        }
+        String[] houses = {"rest 1", "rest 12", "slow 1 p=1", "keen 1 (p=1)", "keen 1 p<11"};
+        for (String end : houses) {
+            String text = hundredEnding(end);
+            is("signs of it", text.length(), 100);
+            house(text);
+        }
+    }
+
+    /** One clause as long as it must be, then the end. */
+    private static String hundredEnding(String end) {
+        int left = 100 - end.length() - ";".length();
+        StringBuilder text = new StringBuilder("slow 1 p=1");
+        while (left - text.length() >= 4) {
+            text.append("|p=1");
+        }
+        // What is left is made up by second digits.
+        for (int i = left - text.length(); i > 0; i--) {
+            text.insert(text.length() - (i - 1) * 4, '0');
+        }
+        return text.append(';').append(end).toString();
+    }
+
+    static void p10_FAULT_behind_a_longer_TEXT_that_was() {
+        BellsBelow x = new BellsBelow();
+        is("the longer", Due.house(x, "rest 1;rest 2;slow 12 p=12|p=1x"), -40);
+        is("as far as a ;", Due.house(x, "rest 1;"), -17);
+        is("as far as a digit", Due.house(x, "rest 1;rest 2;slow 1"), -30);
+        is("as far as a relation", Due.house(x, "rest 1;rest 2;slow 12 p="), -34);
+        is("as far as a whole one", Due.house(x, "rest 1"), 0);
+        is("its REST", x.told(1), 1);
+    }
+
     static void p10_FAULT_at_the_first_of_several() {
         fault("slow 1 ", "q=1;slow 2 q=1;q");
         fault("", "xslow 1 p=1");
@@ -516,6 +560,37 @@ public final class EdgeHousesTest extends Edge {
         for (int f = 0; f < 10; f++) {
             is("LOOP of " + f, x.told(20 + f), 2);
         }
+    }
+
+    static void p11_CROSSED_by_each_loop_of_four() {
+        int[][] orders = {{1, 2, 3}, {1, 3, 2}, {2, 1, 3}, {2, 3, 1}, {3, 1, 2}, {3, 2, 1}};
+        for (int[] order : orders) {
+            BellsBelow x = new BellsBelow();
+            // Each change puts one FLOOR more into the loop of 0.
+            for (int f : order) {
+                x.cross(0, f);
+            }
+            is("times", x.told(5), 3);
+            is("the first", x.told(6), 0);
+            for (int f = 0; f < 10; f++) {
+                is("LOOP of " + f, x.told(20 + f), f < 4 ? 4 : 1);
+            }
+        }
+    }
+
+    static void p11_CROSSED_by_loops_of_several_lengths() {
+        BellsBelow x = new BellsBelow();
+        x.cross(9, 4);
+        x.cross(4, 0);
+        x.cross(8, 1);
+        x.cross(7, 3);
+        x.cross(3, 6);
+        x.cross(6, 2);
+        is("three, two and four", x.told(5), 2 + 1 + 3);
+        is("LOOP of 9", x.told(29), 3);
+        is("LOOP of 8", x.told(28), 2);
+        is("LOOP of 7", x.told(27), 4);
+        is("LOOP of 5", x.told(25), 1);
     }
 
     static void p11_LOOP_1_and_10() {

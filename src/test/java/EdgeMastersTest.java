@@ -275,6 +275,16 @@ public final class EdgeMastersTest extends Edge {
         is("FREE in the one behind", x.of(0, 8), 0);
     }
 
+    static void p03_STANDS_on_no_FLOOR_behind_the_last() {
+        BellsBelow x = Stage.masters(0, 0);
+        x.set(1, 0, 0);
+        Due.house(x, "keen 50 p=0;slow 99 p=0&a>9");
+        x.ring(0);
+        x.ring(9);
+        // From a FLOOR 10, and from no other, it would leave 0 to the second, and be at 9 at once.
+        is("STANDS", x.of(0, 8), 0);
+    }
+
     static void p03_COST_of_a_FLOOR_none_APART() {
         for (int kind = 0; kind < 7; kind++) {
             BellsBelow x = new BellsBelow();
@@ -344,6 +354,20 @@ public final class EdgeMastersTest extends Edge {
         is("EARL in MINUTE 9999", x.of(0, 10), 20);
     }
 
+    static void p03_COST_by_CAME_of_a_DUKE_and_an_EARL_alone() {
+        for (int kind = 0; kind < 7; kind++) {
+            BellsBelow x = new BellsBelow();
+            x.master(kind, 0, 0);
+            Due.house(x, "rest 0");
+            for (int came = 1; came <= 4; came++) {
+                x.ring(0);
+                x.pass(1);
+            }
+            is("CAME of KIND " + kind, x.of(0, 6), 4);
+            is("COST of KIND " + kind, x.of(0, 10), kind == 1 || kind == 4 ? 4 : 0);
+        }
+    }
+
     static void p03_COST_of_a_TOLD_one_by_MINUTE_modulo_4() {
         BellsBelow x = new BellsBelow();
         x.master(6, 0, 0);
@@ -396,6 +420,14 @@ public final class EdgeMastersTest extends Edge {
         is("more, 99", x.of(0, 10), 1 + 8);
         Due.house(x, "slow 1 v=05;slow 2 v=50;slow 4 v=0;slow 8 v>00");
         is("of two digits", x.of(0, 10), 1 + 8);
+    }
+
+    static void p03_COST_by_the_last_letter_relation_and_number() {
+        BellsBelow x = Stage.masters(0);
+        Due.house(x, "slow 1 p=0&m>99;slow 2 p=0|m>99;slow 4 m>99;slow 8 p=0&!m>99");
+        is("m>99", x.of(0, 10), 2 + 8);
+        Due.house(x, "slow 1 m<0;slow 2 m>0;slow 4 m<99;slow 8 p<0;slow 16 p>99;slow 32 p<99");
+        is("m and p, 0 and 99", x.of(0, 10), 4 + 32);
     }
 
     // ---- promise 4: set

@@ -379,6 +379,46 @@ public final class EdgeMinutesTest extends Edge {
         }
     }
 
+    /** Who goes by KIND, v, CAME, RESTS, WIRES and HOUSE goes so where it is asked, too. */
+    static void p13_what_is_asked_goes_on_by_all_that_is() {
+        for (int kind = 0; kind < 7; kind++) {
+            for (int v = 0; v <= 9; v += 9) {
+                BellsBelow x = new BellsBelow();
+                BellsBelow y = new BellsBelow();
+                prepares(x, kind, v);
+                prepares(y, kind, v);
+                y.pass(1);
+                for (int p = 0; p < 2; p++) {
+                    is("FLOOR of " + p + ", KIND " + kind, x.on(1, 10 + p), y.of(p, 2));
+                    is("GOAL of " + p + ", KIND " + kind, x.on(1, 20 + p), y.of(p, 3));
+                }
+            }
+        }
+    }
+
+    /** The first has come once; both then stand beside FLOOR 3, the first above it. */
+    private static void prepares(BellsBelow x, int kind, int v) {
+        x.master(kind, v, 5);
+        x.row(0, 1, 9);
+        Due.house(x, "rest 0");
+        x.ring(5);
+        x.pass(1);
+        x.master(0, 0, 1);
+        x.ring(3);
+    }
+
+    static void p13_who_goes_by_its_KIND() {
+        // In MINUTE 1 the COST for FLOOR 3 of the second is 4; that of the first is, by its KIND,
+        // 4; 4, CAME 1; 2; 4, v 9; 4, CAME 1, 20; 2, less v 9; 4, v 9, ROW 9.
+        int[] who = {0, 1, 0, 1, 1, 0, 1};
+        for (int kind = 0; kind < 7; kind++) {
+            BellsBelow x = new BellsBelow();
+            prepares(x, kind, 9);
+            is("who, KIND " + kind, x.bell(3, 1), who[kind]);
+            is("GOAL of the first on 1, KIND " + kind, x.on(1, 20), who[kind] == 0 ? 3 : NOT);
+        }
+    }
+
     static void p13_MINUTES_go_on_beyond_9999() {
         same("on(60, 1)", Stage::late, x -> x.on(60, 1), Stage.late().told(3));
         BellsBelow x = Stage.passedTo(Stage.masters(0), 9999);
@@ -649,6 +689,25 @@ public final class EdgeMinutesTest extends Edge {
         x.set(1, 1, 1);
         ring(x, 1, 2, 4);
         shared(x, 1, 2, 1, 0);
+    }
+
+    static void p15_asked_again_when_all_is_otherwise() {
+        BellsBelow x = Stage.masters(0, 0);
+        ring(x, 0, 1, 9);
+        shared(x, 2, 0, 0, 0, 1, 1);
+        x.away(1, true);
+        shared(x, 1, 0, 0, 0);
+        x.away(0, true);
+        shared(x, 0, 0);
+        x.away(1, false);
+        shared(x, 1, 0, 1, 1);
+        x.pass(1);
+        // FLOOR 0 went to the second; the others are RUNG still.
+        x.away(0, false);
+        x.set(1, 1, 1);
+        shared(x, 1, 2, 1, 0);
+        x.set(0, 0, 9);
+        shared(x, 1, 0, 9, 0);
     }
 
     static void p15_what_is_asked_changes_nothing() {

@@ -58,14 +58,15 @@ final class Stage {
         BellsBelow x = some();
         x.master(2, 5, 5);
         x.master(3, 6, 6);
-        while (x.count(2) < 5) {
-            x.see(4, x.count(2), 5);
+        // There is one SEEN already, and three rows of the PLAN, two of the BOOK.
+        for (int i = 1; i < 5; i++) {
+            x.see(4, i, 5);
         }
-        while (x.count(3) < 10) {
+        for (int i = 3; i < 10; i++) {
             x.plan(0, 0);
         }
-        while (x.count(4) < 8) {
-            x.book(5, x.count(4));
+        for (int i = 2; i < 8; i++) {
+            x.book(5, i);
         }
         return x;
     }
@@ -106,9 +107,8 @@ final class Stage {
 
     /** MINUTES go until it is so late; what rings or goes does so meanwhile. */
     static BellsBelow passedTo(BellsBelow x, int minute) {
-        int at = x.told(0);
-        while (at < minute) {
-            at = x.pass(Math.min(60, minute - at));
+        for (int at = x.told(0); at < minute; at += 60) {
+            x.pass(Math.min(60, minute - at));
         }
         return x;
     }
