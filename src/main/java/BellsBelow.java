@@ -10,15 +10,18 @@ public final class BellsBelow {
     private static final int FLOORS = 10, MASTERS = 6, KINDS = 7, PARTS = 4;
     private static final int HOUSES = 6, TAPES = 6, SIGNS = 100, ITEMS = 60;
     private static final int LAST_MINUTE = 9999, MOST_PASSED = 60, MOST_SEEN = 20;
+    private static final int MOST_CAME = 9999, MOST_WAITED = 999999;
+    /** More than anything that is counted can come to. */
+    private static final int NO_LIMIT = 2147483647;
 
     private static final int DUKE = 1, LADY = 2, PEER = 3, EARL = 4, ROSE = 5, TOLD = 6;
     /** The KIND above each KIND; -1 above MASTER. */
     private static final int[] ABOVE = {-1, 0, 0, 0, DUKE, LADY, PEER};
 
-    private final Hall now = new Hall(9999, 999999);
+    private final Hall now = new Hall(MOST_CAME, MOST_WAITED);
     // What is asked goes on beyond the limits of what is.
-    private final Hall trial = new Hall(Integer.MAX_VALUE, Integer.MAX_VALUE);
-    private final Hall kept = new Hall(9999, 999999);
+    private final Hall trial = new Hall(NO_LIMIT, NO_LIMIT);
+    private final Hall kept = new Hall(MOST_CAME, MOST_WAITED);
     private final Notes notes = new Notes();
     private final Notes keptNotes = new Notes();
     private boolean hasImage;
@@ -523,7 +526,7 @@ public final class BellsBelow {
 
     private int standsBest(int master) {
         int best = 0;
-        int least = Integer.MAX_VALUE;
+        int least = NO_LIMIT;
         for (int f = 0; f < FLOORS; f++) {
             trial.copies(now);
             trial.floor[master] = f;

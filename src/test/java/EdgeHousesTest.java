@@ -241,6 +241,14 @@ public final class EdgeHousesTest extends Edge {
         is("REST", x.told(1), 6);
     }
 
+    static void p10_nothing_of_a_FAULT_s_TEXT_is_in_the_next_HOUSE() {
+        BellsBelow x = Stage.masters(0);
+        is("house()", Due.house(x, "rest 5;slow 9 p=0;x"), -28);
+        is("the next", Due.house(x, "slow 1 p=1"), 0);
+        is("REST without a rest", x.told(1), 2);
+        is("COST", x.of(0, 10), 0);
+    }
+
     static void p10_the_one_that_held_holds_by_a_FAULT() {
         BellsBelow x = Stage.masters(0);
         Due.house(x, "slow 7 p=0;rest 8");

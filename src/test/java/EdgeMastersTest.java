@@ -285,6 +285,41 @@ public final class EdgeMastersTest extends Edge {
         is("STANDS", x.of(0, 8), 0);
     }
 
+    static void p03_STANDS_on_each_FLOOR() {
+        for (int f = 0; f < 10; f++) {
+            BellsBelow x = new BellsBelow();
+            x.master(0, 0, 5);
+            x.master(0, 0, f < 5 ? 9 : 0);
+            // It goes from the FLOOR that is RUNG, and from no other; else the one far off does.
+            Due.house(x, "keen 50 p=0&a<1;keen 20 p=1");
+            x.ring(f);
+            is("STANDS by the bell of " + f, x.of(0, 8), f);
+        }
+    }
+
+    static void p03_STANDS_of_one_with_a_GOAL_goes_on_to_that() {
+        BellsBelow x = Stage.masters(0);
+        x.ring(9);
+        x.pass(1);
+        x.master(0, 0, 9);
+        // One who has just come stands there, but 9 is the GOAL of the first.
+        is("STANDS", x.of(0, 8), 8);
+        is("STANDS of the other", x.of(1, 8), 0);
+    }
+
+    static void p03_STANDS_of_one_AWAY_alike_on_all() {
+        BellsBelow x = Stage.masters(0);
+        x.ring(5);
+        x.away(0, true);
+        is("STANDS", x.of(0, 8), 0);
+        x.away(0, false);
+        x.pass(1);
+        x.away(0, true);
+        is("STANDS with a GOAL", x.of(0, 8), 0);
+        x.away(0, false);
+        is("STANDS, AWAY no more", x.of(0, 8), 4);
+    }
+
     static void p03_COST_of_a_FLOOR_none_APART() {
         for (int kind = 0; kind < 7; kind++) {
             BellsBelow x = new BellsBelow();
@@ -678,5 +713,21 @@ public final class EdgeMastersTest extends Edge {
         is("row(1, 0, 0)", x.row(1, 0, 0), 9);
         is("row(1, 3, 0) again", x.row(1, 3, 0), 0);
         is("row(0, 3, 0), the other's", x.row(0, 3, 0), 0);
+    }
+
+    static void p08_each_TOLD_one_has_a_ROW_of_its_own() {
+        BellsBelow x = Stage.masters(6, 6, 6, 6, 6, 6);
+        for (int p = 0; p < 6; p++) {
+            for (int part = 0; part < 4; part++) {
+                is("row of " + p + " at " + part, x.row(p, part, (p * 4 + part) % 10), 0);
+            }
+        }
+        for (int n = 0; n < 4; n++) {
+            for (int p = 0; p < 6; p++) {
+                is("COST of " + p + " in MINUTE " + n, x.of(p, 10 + p), (p * 4 + n) % 10);
+                is("row of " + p + " at " + n + " was", x.row(p, n, 9), (p * 4 + n) % 10);
+            }
+            x.pass(1);
+        }
     }
 }

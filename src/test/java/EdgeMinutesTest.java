@@ -371,6 +371,17 @@ public final class EdgeMinutesTest extends Edge {
         is("GOAL on 2", x.on(2, 20), NOT);
     }
 
+    static void p13_one_AWAY_stays_with_its_GOAL() {
+        BellsBelow x = Stage.masters(0);
+        ring(x, 5);
+        x.pass(1);
+        x.away(0, true);
+        is("FLOOR on 60", x.on(60, 10), 1);
+        is("GOAL on 60", x.on(60, 20), 5);
+        is("RUNG on 60", x.on(60, 0), 32);
+        is("WAITED on 60", x.on(60, 1), 61);
+    }
+
     static void p13_what_is_asked_changes_nothing() {
         int[] whats = {0, 1, 10, 23};
         for (int what : whats) {

@@ -260,6 +260,16 @@ public final class EdgePlansTest extends Edge {
         is("looked()", x.looked(), 0);
     }
 
+    static void p24_by_its_FLOOR_not_its_GOAL() {
+        BellsBelow x = Stage.masters(0);
+        x.ring(9);
+        x.pass(1);
+        x.book(0, 1);
+        is("its FLOOR", x.looked(), NOT);
+        x.book(0, 9);
+        is("its GOAL", x.looked(), 1);
+    }
+
     static void p24_what_is_asked_changes_nothing() {
         same("looked()", Stage::full, BellsBelow::looked, Stage.full().looked());
     }

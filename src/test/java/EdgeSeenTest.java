@@ -161,6 +161,16 @@ public final class EdgeSeenTest extends Edge {
         is("FROM", x.from(0), 1 << 6);
     }
 
+    static void p17_one_with_a_GOAL_goes_on_to_that() {
+        BellsBelow x = Stage.masters(0);
+        x.ring(9);
+        x.pass(1);
+        // One who has just come stands there, but 9 is the GOAL of the first.
+        x.master(0, 0, 9);
+        x.see(0, 2, 5);
+        is("FROM", x.from(0), 1 << 3);
+    }
+
     static void p17_beyond_MINUTE_9999() {
         BellsBelow x = Stage.passedTo(Stage.masters(0), 9999);
         x.ring(9);
@@ -226,6 +236,37 @@ public final class EdgeSeenTest extends Edge {
         can("v<9", 9, 0);
         can("v=10", 0, NOT);
         can("v<10", 10, 0);
+    }
+
+    private static void allTen(String who, BellsBelow x) {
+        is("how many, " + who, x.can(0, 0), 10);
+        is("the least, " + who, x.can(0, 1), 0);
+    }
+
+    static void p18_one_with_a_GOAL_goes_on_to_that() {
+        BellsBelow x = Stage.masters(0);
+        x.ring(9);
+        x.pass(1);
+        x.master(0, 0, 9);
+        x.see(0, 2, 3);
+        allTen("with a GOAL", x);
+    }
+
+    static void p18_one_AWAY_stays() {
+        BellsBelow x = Stage.masters(0);
+        x.ring(9);
+        x.away(0, true);
+        x.see(0, 20, 0);
+        allTen("AWAY", x);
+    }
+
+    static void p18_one_who_RESTS_does_so() {
+        BellsBelow x = Stage.masters(0);
+        x.ring(9);
+        x.set(0, 1, 5);
+        x.see(0, 5, 0);
+        x.see(0, 6, 1);
+        allTen("RESTS", x);
     }
 
     static void p18_what_is_asked_changes_nothing() {
@@ -389,6 +430,15 @@ public final class EdgeSeenTest extends Edge {
         x.away(1, true);
         x.ring(0);
         mean(x, 1, 1, 2);
+    }
+
+    static void p20_one_AWAY_who_CAME_counts() {
+        BellsBelow x = Stage.masters(0, 0);
+        x.ring(0);
+        x.pass(1);
+        x.away(0, true);
+        mean(x, 0, 1, 2);
+        mean(x, 60, 1, 2);
     }
 
     static void p20_beyond_MINUTE_9999() {

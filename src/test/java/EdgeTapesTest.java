@@ -117,6 +117,24 @@ public final class EdgeTapesTest extends Edge {
         is("an eleventh is not looked at", x.judge(0, 0), NOT);
     }
 
+    static void p25_by_where_a_WIRE_leads_not_by_which_leads_there() {
+        BellsBelow x = new BellsBelow();
+        // FLOORS 0, 5 and 7 in one loop: it is told once along and once against it.
+        x.cross(0, 5);
+        x.cross(5, 7);
+        int[] along = {5, 1, 2, 3, 4, 7, 6, 0, 8, 9};
+        int[] against = {7, 1, 2, 3, 4, 0, 6, 5, 8, 9};
+        x.tape(0, BYTES, 10);
+        x.tape(1, BYTES, 10);
+        for (int f = 0; f < 10; f++) {
+            is("the WIRE of " + f, x.told(10 + f), along[f]);
+            x.item(0, f, along[f]);
+            x.item(1, f, against[f]);
+        }
+        is("along", x.judge(0, 0), NOT);
+        is("against", x.judge(1, 0), 0);
+    }
+
     static void p25_the_first_that_leads_elsewhere_0_and_9() {
         BellsBelow x = wires(0, 10);
         x.item(0, 9, 8);

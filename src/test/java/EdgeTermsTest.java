@@ -90,6 +90,20 @@ public final class EdgeTermsTest extends Edge {
         }
     }
 
+    static void t1_CAME_goes_on_as_far_as_512_calls_go() {
+        BellsBelow x = Stage.masters(1);
+        Due.house(x, "rest 0");
+        for (int i = 1; i <= 40; i++) {
+            for (int f = 0; f < 10; f++) {
+                x.ring(f);
+            }
+            x.pass(60);
+        }
+        is("CAME", x.of(0, 6), 400);
+        is("COST of a DUKE", x.of(0, 19), 400);
+        is("COST of a DUKE, 9 APART", x.of(0, 10), 418);
+    }
+
     static void t1_the_newest_HOUSE_holds() {
         BellsBelow x = Stage.masters(0);
         for (int i = 0; i < 6; i++) {

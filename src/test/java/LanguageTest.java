@@ -3,6 +3,7 @@ import java.lang.reflect.Constructor;
 import java.lang.reflect.Field;
 import java.lang.reflect.Method;
 import java.lang.reflect.Modifier;
+import java.nio.file.DirectoryStream;
 import java.nio.file.Files;
 import java.nio.file.Path;
 import java.util.Set;
@@ -25,14 +26,21 @@ public final class LanguageTest {
         + "import|package|record|volatile|transient|native|instanceof|goto|yield|var|"
         + "Object|Thread|Random|hashCode|equals|toString)\\b|->|::|\\w+Exact\\b";
     private static final String LIBRARY = "String|StringBuilder|Integer|Long|Math|System|Arrays";
-    private static final String CALLS = "Integer\\.(compare|bitCount|MAX_VALUE|MIN_VALUE)|"
-        + "Long\\.(MIN_VALUE|MAX_VALUE)|Math\\.(min|max|abs)|System\\.arraycopy";
+    private static final String CALLS = "Integer\\.(compare|bitCount)|Long\\.MIN_VALUE|"
+        + "Math\\.(min|max|abs)|System\\.arraycopy";
+    /** As the document's last Terms say; each of its headings stands ahead of its calls. */
+    private static final String ORDER = "---- masters, houses, bells;master;of;set;away;ring;cross;row;"
+        + "feed;house;told;---- minutes;pass;on;bell;shared;---- seen, odds;see;from;can;odds;mean;"
+        + "---- plans, books;plan;ends;book;looked;---- judging, the image, acts, tapes;judge;image;"
+        + "undo;act;trace;taken;count;tape;item;read;shift";
 
     public static void main(String[] args) throws IOException {
         face();
         classes();
+        nameless();
         String source = Files.readString(Path.of("src/main/java/BellsBelow.java"));
         text(source);
+        order(source);
         methods(code(source));
         DUE.ends();
     }
@@ -70,6 +78,20 @@ public final class LanguageTest {
         return all.append(')').toString();
     }
 
+    /** What the interface says ahead of its calls, and the calls, one behind the other. */
+    private static void order(String source) {
+        StringBuilder got = new StringBuilder();
+        Pattern said = Pattern.compile("// (----.*)|public (?:int|long|boolean) (\\w+)\\(");
+        Matcher m = said.matcher(source.substring(0, Math.max(0, source.indexOf("private static boolean"))));
+        while (m.find()) {
+            String what = m.group(1) == null ? m.group(2) : m.group(1);
+            if (!what.equals("---- what the calls share")) {
+                got.append(got.length() == 0 ? "" : ";").append(what);
+            }
+        }
+        DUE.isSo("the interface is " + got, got.toString().equals(ORDER));
+    }
+
     private static void privateNames(Class<?> c, Set<String> names) {
         for (Method m : c.getDeclaredMethods()) {
             boolean apart = c == BellsBelow.class && Modifier.isPublic(m.getModifiers());
@@ -85,17 +107,34 @@ public final class LanguageTest {
         Set<String> open = new TreeSet<>();
         for (Field f : BellsBelow.class.getDeclaredFields()) {
             if (!Modifier.isPrivate(f.getModifiers())) {
-                open.add(f.getName());
+                open.add(Modifier.toString(f.getModifiers()) + " " + f.getType() + " " + f.getName());
             }
         }
-        DUE.isSo("constants of the face are " + open,
-            open.equals(Set.of("NONE", "BAD", "STATE", "FULL", "NO")));
+        DUE.isSo("constants of the face are " + open, open.equals(Set.of("public static final int NONE",
+            "public static final int BAD", "public static final int STATE", "public static final int FULL",
+            "public static final long NO")));
         for (Class<?> c : inside) {
             DUE.isSo(c + " is static", Modifier.isStatic(c.getModifiers()));
             DUE.isSo(c + " is not open", !Modifier.isPublic(c.getModifiers()));
             DUE.is(c + " has none inside", c.getDeclaredClasses().length, 0);
             fields(c);
         }
+    }
+
+    /** Local and anonymous classes are compiled to BellsBelow$1.., and declared by none. */
+    private static void nameless() throws IOException {
+        Set<String> declared = new TreeSet<>(Set.of("BellsBelow.class"));
+        for (Class<?> c : BellsBelow.class.getDeclaredClasses()) {
+            declared.add(c.getName() + ".class");
+        }
+        Set<String> compiled = new TreeSet<>();
+        Path here = Path.of(BellsBelow.class.getProtectionDomain().getCodeSource().getLocation().getPath());
+        try (DirectoryStream<Path> all = Files.newDirectoryStream(here, "BellsBelow{.,$}*")) {
+            for (Path file : all) {
+                compiled.add(file.getFileName().toString());
+            }
+        }
+        DUE.isSo("the classes are " + compiled, compiled.equals(declared));
     }
 
     private static void fields(Class<?> c) {
